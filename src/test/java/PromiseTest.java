@@ -302,6 +302,9 @@ public final class PromiseTest {
         fault("tower 5 ", 8);
         fault("tow", 0);
         fault("towers 5;", 0);
+        fault("xower 5;", 0);
+        fault("tower 5;xethod 1 1 1 1 1 1;", 8);
+        fault("tower 5;slap 0 0 1;", 8);
         fault(" tower5; slips", 9);
         fault("Tower 5;", 0);
         fault("tower 3;", 6);
@@ -679,6 +682,9 @@ public final class PromiseTest {
         c.due("no row then", x.clash(1), 0);
         x.slips(4, PLAIN, 11);
         c.due("the last row", x.clash(1), 11);
+        x.slips(4, PLAIN, 1);
+        c.due("the first row", x.clash(1), 1);
+        c.due("one in it", x.clash(0), 1);
         for (int wrong : new int[] {-1, 2, LOWEST, HIGHEST}) {
             bad(x, "clash " + wrong, () -> x.clash(wrong));
         }
@@ -706,6 +712,12 @@ public final class PromiseTest {
         y.slips(3, PLAIN, 1);
         // 21354 is row 7, so 8 must be among them
         c.due("fewest, then least", y.mend(), 10);
+        HandedSlips v = bells(5, 121213);
+        v.slips(0, PLAIN, 11);
+        v.slips(1, EARLY, 11);
+        v.slips(2, PLAIN, 11);
+        // 12354 comes to 21534, as row 10 is; without the first two, bits 3, it is 12534, without the third alone 21354
+        c.due("the fewest, though more bits are less", v.mend(), 4);
         HandedSlips z = bells(5, 121212);
         z.slips(4, EARLY, 10);
         c.due("slips can not be put by it", z.mend(), NONE);
@@ -732,6 +744,15 @@ public final class PromiseTest {
         // 2143, 1324 and 2134 all come to 1234 by these
         c.due("round slips that bring row 1 back", y.compose(), NONE);
         c.due("none is no refusal", y.status(1), 0);
+        HandedSlips z = bells(5, 0);
+        z.slips(0, LATE, 1);
+        z.slips(1, PLAIN, 7);
+        z.slips(2, LEFT, 7);
+        z.slips(4, ECHO, 7);
+        // 0 1 2 1 2 3 would be true and less
+        c.due("of the changes 1 to 3", z.compose(), 121213);
+        compose(z, 12123);
+        c.due("a true one with a change 0", z.repeats(0), NONE);
         y.drops(2);
         compose(y, y.compose());
         c.due("what it tells is true", y.repeats(0), NONE);
@@ -876,6 +897,10 @@ public final class PromiseTest {
         c.due("row 3: four pairs", x.tell(), 3);
         x.heard(3, 21345);
         c.due("row 5 then", x.tell(), 5);
+        HandedSlips z = new HandedSlips();
+        z.slips(0, PLAIN, 11);
+        z.heard(11, 21345);
+        c.due("heard in the last row", z.who(1), 1);
         x.heard(5, 12345);
         c.due("one set: the least row", x.tell(), 1);
         x.heard(5, 21345);
@@ -1089,6 +1114,12 @@ public final class PromiseTest {
             y.hands(r, LEARNER);
         }
         c.due("whatever their ringers", y.lends(4, 3), 1 + 2);
+        c.due("whatever their ringers", y.lends(3, 4), 1 + 4);
+        HandedSlips v = bells(6, 121212);
+        v.slips(5, LATE, 11);
+        v.slips(4, PLAIN, 1);
+        // in row 11 bell 6 is the last, in row 1 bell 5: the own slip moves none, the other bell's moves them
+        c.due("each pair rests", v.lends(5, 4), 1 + 2 + 4 + 8);
         HandedSlips z = new HandedSlips();
         z.slips(4, PLAIN, 3);
         z.slips(3, PLAIN, 3);
@@ -1170,7 +1201,14 @@ public final class PromiseTest {
         c.due("four years", x.weddings(7, 4), 7);
         // the learner's 1 and 2 years: not made
         c.due("six years", x.weddings(7, 6), 9);
-        c.due("the highest seed", x.weddings(999999, 60) >= 0 ? 1 : 0, 1);
+        HandedSlips y = new HandedSlips();
+        y.slips(4, PLAIN, 3);
+        y.slips(2, PLAIN, 3);
+        y.slips(1, PLAIN, 7);
+        y.hands(1, LEARNER);
+        // rope 4 to a proud one, none in year 0, and rope 2's is made; rope 2 to a lent one, none in year 1
+        c.due("the highest seed", y.weddings(999999, 1), 1);
+        c.due("the highest seed, the second year", y.weddings(999999, 2), 1);
         for (int wrong : new int[] {-1, 1000000, LOWEST, HIGHEST}) {
             bad(x, "weddings " + wrong + " 1", () -> x.weddings(wrong, 1));
         }
@@ -1226,10 +1264,37 @@ public final class PromiseTest {
         c.due("the text is not in it", x.count(9), 3);
         fractionDue("nor the fraction", x, 0, 1);
         c.due("nor status", x.status(0), badOnes + 1);
+        imageOfTheMost();
         for (int wrong : new int[] {-1, 2, LOWEST, HIGHEST}) {
             bad(x, "image " + wrong, () -> x.image(wrong));
             bad(x, "from " + wrong, () -> x.from(wrong));
         }
+    }
+
+    private static void imageOfTheMost() {
+        HandedSlips x = bells(4, 123123);
+        for (int i = 0; i < 9; i++) {
+            x.slips(i % 4, i % 6, 1 + i);
+        }
+        for (int i = 1; i <= 6; i++) {
+            x.note(i % 4, i, 7 - i);
+            x.mark(i % 4, 9 * i, 11 * i, i % 2);
+            x.heard(i, 4321);
+        }
+        long most = x.digest();
+        x.image(0);
+        x.tower(6);
+        for (int i = 0; i < 8; i++) {
+            x.hands(0, LENT);
+        }
+        x.from(0);
+        c.due("the most of all is back", x.digest(), most);
+        for (int i = 7; i >= 0; i--) {
+            c.due("undo " + i, x.undo(), 0);
+            c.due("row " + i, x.of(i % 4, 1), 1 + i);
+        }
+        c.due("the first slip alone is left", x.count(1), 1);
+        refused(x, "undo a ninth", NO, x::undo);
     }
 
     private static void status() {
