@@ -1,19 +1,13 @@
 import java.util.Arrays;
-import java.util.function.LongSupplier;
 
 /** Each promise by answers worked out by hand: ordinary inputs, the edges that the document names, wrong inputs. */
 public final class PromiseTest {
-    private static final int NONE = -1, BAD = -2, NO = -3, FULL = -4;
-    private static final int PLAIN = 0, EARLY = 1, LATE = 2, DROPPED = 3, LEFT = 4, ECHO = 5;
-    private static final int OLD = 0, LEARNER = 1, PROUD = 2, STRANGER = 3, LEFT_HAND = 4, LENT = 5;
-    private static final int LOWEST = Integer.MIN_VALUE, HIGHEST = Integer.MAX_VALUE;
-
-    /** Five bells, all different: the changes 3 2 3 2 3 2. */
-    private static final int[] TRUE_ROWS = {
-        12345, 21345, 23154, 32154, 31245, 13245, 12354, 21354, 23145, 32145, 31254, 13254};
-    /** Six bells, all different: the changes 1 2 1 2 1 2. */
-    private static final int[] HUNT_ROWS = {
-        123456, 214365, 241635, 426153, 462513, 645231, 654321, 563412, 536142, 351624, 315264, 132546};
+    private static final int NONE = Towers.NONE, BAD = Towers.BAD, NO = Towers.NO, FULL = Towers.FULL;
+    private static final int PLAIN = Towers.PLAIN, EARLY = Towers.EARLY, LATE = Towers.LATE;
+    private static final int DROPPED = Towers.DROPPED, LEFT = Towers.LEFT, ECHO = Towers.ECHO;
+    private static final int OLD = Towers.OLD, LEARNER = Towers.LEARNER, PROUD = Towers.PROUD;
+    private static final int STRANGER = Towers.STRANGER, LEFT_HAND = Towers.LEFT_HAND, LENT = Towers.LENT;
+    private static final int LOWEST = Towers.LOWEST, HIGHEST = Towers.HIGHEST;
 
     private static final Checks c = new Checks();
 
@@ -67,77 +61,6 @@ public final class PromiseTest {
 
     // ---- what the tests share
 
-    private static void refused(HandedSlips x, String call, int answer, LongSupplier asked) {
-        long before = x.digest();
-        int[] counts = {x.status(0), x.status(1), x.status(2)};
-        c.due(call, asked.getAsLong(), answer);
-        counts[BAD - answer]++;
-        c.due(call + ", then digest", x.digest(), before);
-        for (int what = 0; what < 3; what++) {
-            c.due(call + ", then status " + what, x.status(what), counts[what]);
-        }
-    }
-
-    private static void bad(HandedSlips x, String call, LongSupplier asked) {
-        refused(x, call, BAD, asked);
-    }
-
-    private static void compose(HandedSlips x, int changes) {
-        int rest = changes;
-        for (int k = 5; k >= 0; k--) {
-            x.method(k, rest % 10);
-            rest /= 10;
-        }
-    }
-
-    private static HandedSlips bells(int n, int changes) {
-        HandedSlips x = new HandedSlips();
-        x.tower(n);
-        compose(x, changes);
-        return x;
-    }
-
-    /** Nothing in it is as at first. */
-    private static HandedSlips filled() {
-        HandedSlips x = bells(6, 323232);
-        x.slips(1, ECHO, 1);
-        x.hands(1, LEFT_HAND);
-        x.slips(2, PLAIN, 3);
-        x.year(3);
-        x.heard(1, 214365);
-        x.note(1, 1, 3);
-        x.mark(2, 7, 8, 1);
-        Checks.typeAll(x, "ab");
-        x.odds(10);
-        x.odds(3);
-        x.image(1);
-        x.slips(7, 0, 1);
-        return x;
-    }
-
-    private static void asAtFirst(String where, HandedSlips x, int n) {
-        c.due(where + ": bells", x.count(0), n);
-        for (int what = 1; what <= 8; what++) {
-            c.due(where + ": count " + what, x.count(what), 0);
-        }
-        int rounds = 123456 / (n == 4 ? 100 : n == 5 ? 10 : 1);
-        for (int k = 0; k < 12; k++) {
-            c.due(where + ": meant " + k, x.row(k, 0), rounds);
-            c.due(where + ": rung " + k, x.row(k, 1), rounds);
-        }
-        for (int r = 0; r < n; r++) {
-            c.due(where + ": slip of " + r, x.of(r, 0), NONE);
-            c.due(where + ": row of " + r, x.of(r, 1), NONE);
-            c.due(where + ": ringer of " + r, x.of(r, 2), OLD);
-            c.due(where + ": years of " + r, x.of(r, 3), 0);
-            c.due(where + ": made by " + r, x.of(r, 4), 0);
-        }
-        c.due(where + ": of none there", x.of(n, 0), BAD);
-        for (int k = 0; k < 6; k++) {
-            c.due(where + ": change " + k, x.method(k, 0), 0);
-        }
-    }
-
     private static void rowsDue(HandedSlips x, int what, int[] rows) {
         for (int k = 0; k < 12; k++) {
             c.due("row " + k + " " + what, x.row(k, what), rows[k]);
@@ -159,7 +82,7 @@ public final class PromiseTest {
         for (int what = 0; what < 3; what++) {
             c.due("status of a new one", x.status(what), 0);
         }
-        asAtFirst("a new one", x, 5);
+        Towers.asAtFirst(c, "a new one", x, 5);
         c.due("no image", x.from(0), NO);
         c.due("no image", x.from(1), NO);
         c.due("nothing to undo", x.undo(), NO);
@@ -171,15 +94,15 @@ public final class PromiseTest {
     private static void tower() {
         HandedSlips x = new HandedSlips();
         c.due("tower 4", x.tower(4), 5);
-        asAtFirst("tower 4", x, 4);
+        Towers.asAtFirst(c, "tower 4", x, 4);
         c.due("tower 6", x.tower(6), 4);
-        asAtFirst("tower 6", x, 6);
+        Towers.asAtFirst(c, "tower 6", x, 6);
         c.due("tower 5", x.tower(5), 6);
-        asAtFirst("tower 5", x, 5);
+        Towers.asAtFirst(c, "tower 5", x, 5);
         for (int n : new int[] {6, 4, 5}) {
-            HandedSlips y = filled();
+            HandedSlips y = Towers.filled();
             c.due("tower " + n, y.tower(n), 6);
-            asAtFirst("a filled one, tower " + n, y, n);
+            Towers.asAtFirst(c, "a filled one, tower " + n, y, n);
             c.due("the text stays", y.count(9), 2);
             fractionDue("the fraction stays", y, 3, 10);
             c.due("status stays", y.status(0), 2);
@@ -187,8 +110,8 @@ public final class PromiseTest {
             c.due("the image stays as it was", y.count(1), 2);
         }
         for (int n : new int[] {3, 7, 0, -4, LOWEST, HIGHEST}) {
-            HandedSlips y = filled();
-            bad(y, "tower " + n, () -> y.tower(n));
+            HandedSlips y = Towers.filled();
+            c.bad(y, "tower " + n, () -> y.tower(n));
         }
     }
 
@@ -199,19 +122,19 @@ public final class PromiseTest {
             c.due("method " + k + " " + k % 4, x.method(k, k % 4), 3);
             c.due("method " + k + " 0", x.method(k, 0), k % 4);
         }
-        HandedSlips y = filled();
+        HandedSlips y = Towers.filled();
         c.due("may be undone", y.count(8), 4);
         c.due("the same change told again", y.method(0, 3), 3);
         c.due("then none may be undone", y.count(8), 0);
-        refused(y, "undo behind a method", NO, y::undo);
+        c.refused(y, "undo behind a method", NO, y::undo);
         c.due("its slips stay", y.count(1), 2);
         for (int k : new int[] {-1, 6, LOWEST, HIGHEST}) {
-            HandedSlips z = filled();
-            bad(z, "method " + k + " 1", () -> z.method(k, 1));
+            HandedSlips z = Towers.filled();
+            c.bad(z, "method " + k + " 1", () -> z.method(k, 1));
         }
         for (int change : new int[] {-1, 4, LOWEST, HIGHEST}) {
-            HandedSlips z = filled();
-            bad(z, "method 0 " + change, () -> z.method(0, change));
+            HandedSlips z = Towers.filled();
+            c.bad(z, "method 0 " + change, () -> z.method(0, change));
             c.due("a bad one leaves what may be undone", z.count(8), 4);
         }
     }
@@ -221,40 +144,40 @@ public final class PromiseTest {
         c.due("type 0", x.type(0), 1);
         c.due("type 127", x.type(127), 2);
         for (int code : new int[] {-1, 128, 255, LOWEST, HIGHEST}) {
-            bad(x, "type " + code, () -> x.type(code));
+            c.bad(x, "type " + code, () -> x.type(code));
         }
         for (int i = 3; i <= 150; i++) {
             c.due("type " + i, x.type('a'), i);
         }
-        refused(x, "type the 151st", FULL, () -> x.type('a'));
-        bad(x, "type a bad 151st", () -> x.type(128));
+        c.refused(x, "type the 151st", FULL, () -> x.type('a'));
+        c.bad(x, "type a bad 151st", () -> x.type(128));
         c.due("its bytes", x.count(9), 150);
     }
 
     private static void clear() {
         HandedSlips x = new HandedSlips();
         c.due("clear none", x.clear(), 0);
-        Checks.typeAll(x, "tower 6;");
+        Towers.typeAll(x, "tower 6;");
         c.due("clear", x.clear(), 8);
         c.due("cleared", x.count(9), 0);
         c.due("nothing to read", x.read(), -10);
         c.due("clear again", x.clear(), 0);
-        Checks.typeAll(x, "tower 4;");
+        Towers.typeAll(x, "tower 4;");
         c.due("read anew", x.read(), 1);
         c.due("bells", x.count(0), 4);
-        Checks.typeAll(x, "x".repeat(142));
+        Towers.typeAll(x, "x".repeat(142));
         c.due("clear a full one", x.clear(), 150);
         c.due("type again", x.type('t'), 1);
     }
 
     private static void readWholes() {
         HandedSlips x = new HandedSlips();
-        c.due("the least text", Checks.readText(x, "tower5;"), 1);
-        asAtFirst("the least text", x, 5);
-        c.due("blanks", Checks.readText(x, "   tower   06  ;   "), 1);
+        c.due("the least text", Towers.readText(x, "tower5;"), 1);
+        Towers.asAtFirst(c, "the least text", x, 5);
+        c.due("blanks", Towers.readText(x, "   tower   06  ;   "), 1);
         c.due("bells", x.count(0), 6);
         String text = "tower 4;method 3 2 1 0 1 02;slip 3 5 11;ringer 3 4 99;slip 0 0 1;years 2;ringer 0 3 07;";
-        c.due("a whole one", Checks.readText(x, text), 7);
+        c.due("a whole one", Towers.readText(x, text), 7);
         int[] told = {4, 2, 0, 2};
         for (int what = 0; what < 4; what++) {
             c.due("count " + what, x.count(what), told[what]);
@@ -269,23 +192,23 @@ public final class PromiseTest {
         for (int k = 0; k < 6; k++) {
             c.due("change " + k, x.method(k, 0), changes[k]);
         }
-        c.due("later ones stand", Checks.readText(x, "tower 5;slip 0 1 2;slip 0 2 3;method 1 1 1 1 1 1;method 2 2 2 2 2 2;"), 5);
+        c.due("later ones stand", Towers.readText(x, "tower 5;slip 0 1 2;slip 0 2 3;method 1 1 1 1 1 1;method 2 2 2 2 2 2;"), 5);
         c.due("the later kind", x.of(0, 0), 2);
         c.due("the later change", x.method(5, 2), 2);
-        c.due("years at the end", Checks.readText(x, "tower 5;" + "years 99;".repeat(9) + "years 98;ringer 0 4 5;years 20;"), 13);
+        c.due("years at the end", Towers.readText(x, "tower 5;" + "years 99;".repeat(9) + "years 98;ringer 0 4 5;years 20;"), 13);
         c.due("989 and 20 years", x.count(3), 999);
         c.due("ten of them go by for a ringer", x.of(0, 3), 15);
         c.due("99 at most", x.of(1, 3), 99);
-        c.due("none goes by at 999", Checks.readText(x, "tower 5;" + "years 99;".repeat(11) + "ringer 0 4 5;years 9;"), 14);
+        c.due("none goes by at 999", Towers.readText(x, "tower 5;" + "years 99;".repeat(11) + "ringer 0 4 5;years 9;"), 14);
         c.due("his years then", x.of(0, 3), 5);
-        c.due("the most bytes", Checks.typeAll(x, " ".repeat(150 - x.count(9))), 150);
+        c.due("the most bytes", Towers.typeAll(x, " ".repeat(150 - x.count(9))), 150);
         c.due("a full text", x.read(), 14);
     }
 
     private static void fault(String text, int place) {
-        HandedSlips x = filled();
+        HandedSlips x = Towers.filled();
         x.clear();
-        Checks.typeAll(x, text);
+        Towers.typeAll(x, text);
         long before = x.digest();
         c.due("read '" + text + "'", x.read(), -10 - place);
         c.due("all stays behind '" + text + "'", x.digest(), before);
@@ -353,15 +276,15 @@ public final class PromiseTest {
         fault("tower 5;years 100;", 14);
         fault("tower 5;years;", 13);
         HandedSlips x = new HandedSlips();
-        c.due("the edges that may stand", Checks.readText(x, "tower6;slip5 5 11;slip 0 0 1;ringer5 5 99;ringer0 0 0;years1;years99;"), 7);
+        c.due("the edges that may stand", Towers.readText(x, "tower6;slip5 5 11;slip 0 0 1;ringer5 5 99;ringer0 0 0;years1;years99;"), 7);
     }
 
     private static void readLeaves() {
-        HandedSlips x = filled();
+        HandedSlips x = Towers.filled();
         x.clear();
-        Checks.typeAll(x, "tower 6;");
+        Towers.typeAll(x, "tower 6;");
         c.due("read", x.read(), 1);
-        asAtFirst("read into a filled one", x, 6);
+        Towers.asAtFirst(c, "read into a filled one", x, 6);
         c.due("the text stays", x.count(9), 8);
         fractionDue("read", x, 3, 10);
         c.due("status stays", x.status(0), 2);
@@ -389,16 +312,16 @@ public final class PromiseTest {
         c.due("two ropes have one", x.count(1), 2);
         c.due("three may be undone", x.count(8), 3);
         for (int wrong : new int[] {-1, 12, 6, 5, LOWEST, HIGHEST}) {
-            bad(x, "slips " + wrong + " 0 1", () -> x.slips(wrong, 0, 1));
+            c.bad(x, "slips " + wrong + " 0 1", () -> x.slips(wrong, 0, 1));
             if (wrong != 5) {
-                bad(x, "slips 0 " + wrong + " 1", () -> x.slips(0, wrong, 1));
+                c.bad(x, "slips 0 " + wrong + " 1", () -> x.slips(0, wrong, 1));
             }
         }
         for (int wrong : new int[] {0, 12, -1, LOWEST, HIGHEST}) {
-            bad(x, "slips 0 0 " + wrong, () -> x.slips(0, 0, wrong));
+            c.bad(x, "slips 0 0 " + wrong, () -> x.slips(0, 0, wrong));
         }
         x.tower(4);
-        bad(x, "slips 4 of four", () -> x.slips(4, 0, 1));
+        c.bad(x, "slips 4 of four", () -> x.slips(4, 0, 1));
         x.tower(6);
         c.due("slips 5 of six", x.slips(5, 0, 1), 0);
     }
@@ -433,17 +356,17 @@ public final class PromiseTest {
         HandedSlips x = new HandedSlips();
         x.slips(2, LEFT, 3);
         x.hands(2, LEARNER);
-        refused(x, "drops where none is", NO, () -> x.drops(1));
+        c.refused(x, "drops where none is", NO, () -> x.drops(1));
         c.due("drops", x.drops(2), LEFT);
         c.due("its kind then", x.of(2, 0), NONE);
         c.due("its row then", x.of(2, 1), NONE);
         c.due("the ringer stays", x.of(2, 2), LEARNER);
         c.due("it may be undone", x.count(8), 3);
-        refused(x, "drops again", NO, () -> x.drops(2));
+        c.refused(x, "drops again", NO, () -> x.drops(2));
         c.due("slips then", x.slips(2, PLAIN, 1), 0);
         c.due("drops a kind 0", x.drops(2), PLAIN);
         for (int wrong : new int[] {-1, 5, LOWEST, HIGHEST}) {
-            bad(x, "drops " + wrong, () -> x.drops(wrong));
+            c.bad(x, "drops " + wrong, () -> x.drops(wrong));
         }
     }
 
@@ -461,17 +384,17 @@ public final class PromiseTest {
         c.due("it may be undone", x.count(8), 4);
         c.due("a rope without a slip", x.hands(0, OLD), 7);
         for (int wrong : new int[] {-1, 5, LOWEST, HIGHEST}) {
-            bad(x, "hands " + wrong + " 0", () -> x.hands(wrong, 0));
+            c.bad(x, "hands " + wrong + " 0", () -> x.hands(wrong, 0));
         }
         for (int wrong : new int[] {-1, 6, LOWEST, HIGHEST}) {
-            bad(x, "hands 0 " + wrong, () -> x.hands(0, wrong));
+            c.bad(x, "hands 0 " + wrong, () -> x.hands(0, wrong));
         }
     }
 
     private static void year() {
         HandedSlips x = new HandedSlips();
         c.due("a year of rounds", x.year(1), 0);
-        compose(x, 323232);
+        Towers.compose(x, 323232);
         c.due("years of true rows", x.year(60), 1);
         c.due("the town's year", x.count(3), 61);
         c.due("a ringer's years", x.of(4, 3), 61);
@@ -487,7 +410,7 @@ public final class PromiseTest {
         c.due("a ringer's years end at 99", x.of(0, 3), 99);
         c.due("the later one's do not", x.of(1, 3), 62);
         for (int wrong : new int[] {0, -1, 61, LOWEST, HIGHEST}) {
-            bad(x, "year " + wrong, () -> x.year(wrong));
+            c.bad(x, "year " + wrong, () -> x.year(wrong));
         }
     }
 
@@ -514,7 +437,7 @@ public final class PromiseTest {
 
     private static void undo() {
         HandedSlips x = new HandedSlips();
-        refused(x, "undo none", NO, x::undo);
+        c.refused(x, "undo none", NO, x::undo);
         long first = x.digest();
         x.slips(0, LATE, 5);
         x.slips(0, EARLY, 6);
@@ -536,7 +459,7 @@ public final class PromiseTest {
         c.due("the first slip is back", x.of(0, 1), 5);
         c.due("undo the first slip", x.undo(), 0);
         c.due("all is as at first", x.digest(), first);
-        refused(x, "undo one too many", NO, x::undo);
+        c.refused(x, "undo one too many", NO, x::undo);
         for (int row = 1; row <= 10; row++) {
             x.slips(1, PLAIN, row);
         }
@@ -545,7 +468,7 @@ public final class PromiseTest {
             c.due("undo to row " + row, x.undo(), 0);
             c.due("row " + row, x.of(1, 1), row);
         }
-        refused(x, "undo a ninth", NO, x::undo);
+        c.refused(x, "undo a ninth", NO, x::undo);
         HandedSlips y = new HandedSlips();
         y.slips(0, LATE, 5);
         y.heard(1, 12345);
@@ -569,8 +492,8 @@ public final class PromiseTest {
         c.due("none to make", x.of(2, 4), 0);
         c.due("no refusals", x.status(0) + x.status(1), 0);
         for (int wrong : new int[] {-1, 5, LOWEST, HIGHEST}) {
-            bad(x, "of " + wrong + " 0", () -> x.of(wrong, 0));
-            bad(x, "of 1 " + wrong, () -> x.of(1, wrong));
+            c.bad(x, "of " + wrong + " 0", () -> x.of(wrong, 0));
+            c.bad(x, "of 1 " + wrong, () -> x.of(1, wrong));
         }
     }
 
@@ -586,7 +509,7 @@ public final class PromiseTest {
                 HandedSlips x = new HandedSlips();
                 int years = row[1];
                 String text = "tower 5;" + (years > 0 ? "years " + years + ";" : "") + "slip 2 0 3;ringer 2 " + kind + " " + row[0] + ";";
-                Checks.readText(x, text);
+                Towers.readText(x, text);
                 c.due(text + " made", x.of(2, 4), row[2 + kind]);
                 c.due(text + " rung", x.row(3, 1), row[2 + kind] == 1 ? 12435 : 12345);
             }
@@ -596,36 +519,36 @@ public final class PromiseTest {
     // ---- 13 to 19
 
     private static void rowMeant() {
-        rowsDue(bells(5, 323232), 0, TRUE_ROWS);
-        rowsDue(bells(6, 121212), 0, HUNT_ROWS);
-        rowsDue(bells(4, 121213), 0, new int[] {
+        rowsDue(Towers.bells(5, 323232), 0, Towers.TRUE_ROWS);
+        rowsDue(Towers.bells(6, 121212), 0, Towers.HUNT_ROWS);
+        rowsDue(Towers.bells(4, 121213), 0, new int[] {
             1234, 2143, 2413, 4231, 4321, 3412, 4312, 3421, 3241, 2314, 2134, 1243});
-        rowsDue(bells(5, 121213), 0, new int[] {
+        rowsDue(Towers.bells(5, 121213), 0, new int[] {
             12345, 21435, 24153, 42513, 45231, 54321, 45321, 54231, 52413, 25143, 21534, 12354});
-        rowsDue(bells(5, 1), 0, new int[] {
+        rowsDue(Towers.bells(5, 1), 0, new int[] {
             12345, 12345, 12345, 12345, 12345, 12345, 21435, 21435, 21435, 21435, 21435, 21435});
-        HandedSlips x = filled();
+        HandedSlips x = Towers.filled();
         for (int wrong : new int[] {-1, 12, LOWEST, HIGHEST}) {
-            bad(x, "row " + wrong + " 0", () -> x.row(wrong, 0));
-            bad(x, "row " + wrong + " 1", () -> x.row(wrong, 1));
+            c.bad(x, "row " + wrong + " 0", () -> x.row(wrong, 0));
+            c.bad(x, "row " + wrong + " 1", () -> x.row(wrong, 1));
         }
         for (int wrong : new int[] {-1, 2, LOWEST, HIGHEST}) {
-            bad(x, "row 0 " + wrong, () -> x.row(0, wrong));
+            c.bad(x, "row 0 " + wrong, () -> x.row(0, wrong));
         }
     }
 
     private static void rowRung() {
-        HandedSlips x = bells(5, 323232);
+        HandedSlips x = Towers.bells(5, 323232);
         x.slips(0, PLAIN, 1);
         x.slips(1, PLAIN, 1);
         x.slips(4, EARLY, 11);
-        int[] rung = TRUE_ROWS.clone();
+        int[] rung = Towers.TRUE_ROWS.clone();
         // bell 1 from 2 to 3: 23145; then bell 2, where it is then, from 1 to 2
         rung[1] = 32145;
         // bell 5 from 4 to 3
         rung[11] = 13524;
         rowsDue(x, 1, rung);
-        rowsDue(x, 0, TRUE_ROWS);
+        rowsDue(x, 0, Towers.TRUE_ROWS);
         x.hands(0, LEARNER);
         rung[1] = 12345;
         rowsDue(x, 1, rung);
@@ -641,13 +564,13 @@ public final class PromiseTest {
         HandedSlips x = new HandedSlips();
         c.due("rounds repeat at once", x.repeats(0), 1);
         c.due("the earlier one", x.repeats(1), 0);
-        compose(x, 121212);
+        Towers.compose(x, 121212);
         c.due("five bells hunt ten rows", x.repeats(0), 10);
         c.due("like row 0", x.repeats(1), 0);
         x.slips(4, EARLY, 10);
         c.due("then the next", x.repeats(0), 11);
         c.due("like row 1", x.repeats(1), 1);
-        HandedSlips y = bells(5, 323232);
+        HandedSlips y = Towers.bells(5, 323232);
         c.due("none", y.repeats(0), NONE);
         c.due("none earlier", y.repeats(1), NONE);
         y.slips(2, PLAIN, 3);
@@ -655,7 +578,7 @@ public final class PromiseTest {
         c.due("row 2", y.repeats(1), 2);
         c.due("none is no refusal", y.status(0) + y.status(1), 0);
         for (int wrong : new int[] {-1, 2, LOWEST, HIGHEST}) {
-            bad(y, "repeats " + wrong, () -> y.repeats(wrong));
+            c.bad(y, "repeats " + wrong, () -> y.repeats(wrong));
         }
     }
 
@@ -686,13 +609,13 @@ public final class PromiseTest {
         c.due("the first row", x.clash(1), 1);
         c.due("one in it", x.clash(0), 1);
         for (int wrong : new int[] {-1, 2, LOWEST, HIGHEST}) {
-            bad(x, "clash " + wrong, () -> x.clash(wrong));
+            c.bad(x, "clash " + wrong, () -> x.clash(wrong));
         }
     }
 
     private static void mend() {
         c.due("rounds are not mended", new HandedSlips().mend(), NONE);
-        HandedSlips x = bells(5, 323232);
+        HandedSlips x = Towers.bells(5, 323232);
         c.due("it is true", x.mend(), 0);
         x.slips(1, PLAIN, 1);
         c.due("one of one", x.mend(), 2);
@@ -704,7 +627,7 @@ public final class PromiseTest {
         c.due("of those made now", x.mend(), 4);
         x.hands(2, LEARNER);
         c.due("it is true now", x.mend(), 0);
-        HandedSlips y = bells(5, 323232);
+        HandedSlips y = Towers.bells(5, 323232);
         y.slips(1, PLAIN, 11);
         y.slips(4, EARLY, 5);
         c.due("both make 13524", y.repeats(0), 11);
@@ -712,13 +635,13 @@ public final class PromiseTest {
         y.slips(3, PLAIN, 1);
         // 21354 is row 7, so 8 must be among them
         c.due("fewest, then least", y.mend(), 10);
-        HandedSlips v = bells(5, 121213);
+        HandedSlips v = Towers.bells(5, 121213);
         v.slips(0, PLAIN, 11);
         v.slips(1, EARLY, 11);
         v.slips(2, PLAIN, 11);
         // 12354 comes to 21534, as row 10 is; without the first two, bits 3, it is 12534, without the third alone 21354
         c.due("the fewest, though more bits are less", v.mend(), 4);
-        HandedSlips z = bells(5, 121212);
+        HandedSlips z = Towers.bells(5, 121212);
         z.slips(4, EARLY, 10);
         c.due("slips can not be put by it", z.mend(), NONE);
         z.slips(0, PLAIN, 11);
@@ -727,39 +650,39 @@ public final class PromiseTest {
     }
 
     private static void compose() {
-        c.due("four bells", bells(4, 0).compose(), 121213);
-        c.due("five bells", bells(5, 0).compose(), 121213);
-        c.due("six bells", bells(6, 333333).compose(), 121212);
-        HandedSlips x = bells(4, 321321);
+        c.due("four bells", Towers.bells(4, 0).compose(), 121213);
+        c.due("five bells", Towers.bells(5, 0).compose(), 121213);
+        c.due("six bells", Towers.bells(6, 333333).compose(), 121212);
+        HandedSlips x = Towers.bells(4, 321321);
         x.slips(3, PLAIN, 11);
         long before = x.digest();
         c.due("round a slip", x.compose(), 123132);
         c.due("nothing is changed", x.digest(), before);
         x.hands(3, LEARNER);
         c.due("round none made now", x.compose(), 121213);
-        HandedSlips y = bells(4, 0);
+        HandedSlips y = Towers.bells(4, 0);
         y.slips(1, PLAIN, 1);
         y.slips(2, LATE, 1);
         y.slips(3, LATE, 1);
         // 2143, 1324 and 2134 all come to 1234 by these
         c.due("round slips that bring row 1 back", y.compose(), NONE);
         c.due("none is no refusal", y.status(1), 0);
-        HandedSlips z = bells(5, 0);
+        HandedSlips z = Towers.bells(5, 0);
         z.slips(0, LATE, 1);
         z.slips(1, PLAIN, 7);
         z.slips(2, LEFT, 7);
         z.slips(4, ECHO, 7);
         // 0 1 2 1 2 3 would be true and less
         c.due("of the changes 1 to 3", z.compose(), 121213);
-        compose(z, 12123);
+        Towers.compose(z, 12123);
         c.due("a true one with a change 0", z.repeats(0), NONE);
         y.drops(2);
-        compose(y, y.compose());
+        Towers.compose(y, y.compose());
         c.due("what it tells is true", y.repeats(0), NONE);
     }
 
     private static void when() {
-        HandedSlips x = bells(5, 323232);
+        HandedSlips x = Towers.bells(5, 323232);
         c.due("now", x.when(), 0);
         x.slips(1, PLAIN, 1);
         c.due("never", x.when(), NONE);
@@ -769,9 +692,9 @@ public final class PromiseTest {
         c.due("in year 0", x.when(), 0);
         x.year(1);
         c.due("in year 5", x.when(), 4);
-        HandedSlips y = bells(5, 121212);
+        HandedSlips y = Towers.bells(5, 121212);
         c.due("it never is", y.when(), NONE);
-        Checks.readText(y, "tower 5;method 1 2 1 2 1 2;slip 4 1 10;slip 0 0 11;ringer 4 3 0;ringer 0 1 0;");
+        Towers.readText(y, "tower 5;method 1 2 1 2 1 2;slip 4 1 10;slip 0 0 11;ringer 4 3 0;ringer 0 1 0;");
         long before = y.digest();
         c.due("by a stranger of nine years", y.when(), 9);
         c.due("nothing is changed", y.digest(), before);
@@ -783,16 +706,16 @@ public final class PromiseTest {
 
     private static void whenFarOff() {
         HandedSlips x = new HandedSlips();
-        Checks.readText(x, "tower 5;method 3 2 3 2 3 2;slip 1 0 1;" + "years 99;".repeat(10) + "years 9;");
+        Towers.readText(x, "tower 5;method 3 2 3 2 3 2;slip 1 0 1;" + "years 99;".repeat(10) + "years 9;");
         x.hands(1, PROUD);
         c.due("the town's year", x.count(3), 999);
         c.due("in year 1000", x.when(), 1);
         c.due("no year went by", x.count(3), 999);
         x.hands(1, LEFT_HAND);
         c.due("his years go on", x.when(), 1);
-        Checks.readText(x, "tower 5;method 3 2 3 2 3 2;slip 1 0 1;ringer 1 4 98;");
+        Towers.readText(x, "tower 5;method 3 2 3 2 3 2;slip 1 0 1;ringer 1 4 98;");
         c.due("98, then 99", x.when(), 1);
-        Checks.readText(x, "tower 5;method 1 2 1 2 1 2;slip 4 1 10;slip 0 0 11;ringer 4 4 99;");
+        Towers.readText(x, "tower 5;method 1 2 1 2 1 2;slip 4 1 10;slip 0 0 11;ringer 4 4 99;");
         c.due("99 stay odd", x.when(), NONE);
     }
 
@@ -823,25 +746,25 @@ public final class PromiseTest {
         c.due("the same again", x.heard(1, 54321), 2);
         c.due("heard 11", x.heard(11, 12345), 3);
         for (int wrong : new int[] {0, 12, -1, LOWEST, HIGHEST}) {
-            bad(x, "heard " + wrong, () -> x.heard(wrong, 12345));
+            c.bad(x, "heard " + wrong, () -> x.heard(wrong, 12345));
         }
         int[] wrongRows = {0, -12345, 1234, 123456, 12346, 12340, 11345, 12344, 22345, 112345, 102345, 12305, 54320, 1234512345,
             LOWEST, HIGHEST};
         for (int wrong : wrongRows) {
-            bad(x, "heard 1 " + wrong, () -> x.heard(1, wrong));
+            c.bad(x, "heard 1 " + wrong, () -> x.heard(1, wrong));
         }
         c.due("a fourth", x.heard(5, 21435), 4);
-        refused(x, "a fifth", FULL, () -> x.heard(5, 21435));
-        bad(x, "a bad fifth", () -> x.heard(0, 21435));
-        bad(x, "a bad row, too", () -> x.heard(5, 1));
+        c.refused(x, "a fifth", FULL, () -> x.heard(5, 21435));
+        c.bad(x, "a bad fifth", () -> x.heard(0, 21435));
+        c.bad(x, "a bad row, too", () -> x.heard(5, 1));
         c.due("four", x.count(5), 4);
         x.tower(4);
         c.due("of four", x.heard(1, 4321), 1);
-        bad(x, "five of four", () -> x.heard(1, 54321));
-        bad(x, "a bell of four", () -> x.heard(1, 1235));
+        c.bad(x, "five of four", () -> x.heard(1, 54321));
+        c.bad(x, "a bell of four", () -> x.heard(1, 1235));
         x.tower(6);
         c.due("of six", x.heard(1, 654321), 1);
-        bad(x, "five of six", () -> x.heard(1, 54321));
+        c.bad(x, "five of six", () -> x.heard(1, 54321));
     }
 
     private static HandedSlips threeSlips() {
@@ -888,7 +811,7 @@ public final class PromiseTest {
         v.heard(1, 12345);
         whoDue("a slip that moves none", v, 2, 0, 16);
         for (int wrong : new int[] {-1, 3, LOWEST, HIGHEST}) {
-            bad(v, "who " + wrong, () -> v.who(wrong));
+            c.bad(v, "who " + wrong, () -> v.who(wrong));
         }
     }
 
@@ -923,22 +846,22 @@ public final class PromiseTest {
         c.due("note", x.note(0, 1, 6), 1);
         c.due("of another", x.note(4, 6, 1), 2);
         for (int wrong : new int[] {-1, 5, LOWEST, HIGHEST}) {
-            bad(x, "note " + wrong, () -> x.note(wrong, 1, 1));
+            c.bad(x, "note " + wrong, () -> x.note(wrong, 1, 1));
         }
         for (int wrong : new int[] {0, 7, -1, LOWEST, HIGHEST}) {
-            bad(x, "note 0 " + wrong + " 1", () -> x.note(0, wrong, 1));
-            bad(x, "note 0 1 " + wrong, () -> x.note(0, 1, wrong));
+            c.bad(x, "note 0 " + wrong + " 1", () -> x.note(0, wrong, 1));
+            c.bad(x, "note 0 1 " + wrong, () -> x.note(0, 1, wrong));
         }
         for (int many = 3; many <= 6; many++) {
             c.due("note " + many, x.note(1, 2, 3), many);
         }
-        refused(x, "a seventh", FULL, () -> x.note(1, 2, 3));
-        bad(x, "a bad seventh", () -> x.note(5, 2, 3));
-        bad(x, "another bad seventh", () -> x.note(1, 2, 7));
+        c.refused(x, "a seventh", FULL, () -> x.note(1, 2, 3));
+        c.bad(x, "a bad seventh", () -> x.note(5, 2, 3));
+        c.bad(x, "another bad seventh", () -> x.note(1, 2, 7));
         c.due("six", x.count(6), 6);
         x.tower(4);
         c.due("of six bells also in a tower of four", x.note(3, 6, 6), 1);
-        bad(x, "a rope of four", () -> x.note(4, 1, 1));
+        c.bad(x, "a rope of four", () -> x.note(4, 1, 1));
     }
 
     private static void mark() {
@@ -946,20 +869,20 @@ public final class PromiseTest {
         c.due("mark", x.mark(0, 0, 0, 0), 1);
         c.due("of another", x.mark(4, 99, 99, 1), 2);
         for (int wrong : new int[] {-1, 5, LOWEST, HIGHEST}) {
-            bad(x, "mark " + wrong, () -> x.mark(wrong, 0, 0, 0));
+            c.bad(x, "mark " + wrong, () -> x.mark(wrong, 0, 0, 0));
         }
         for (int wrong : new int[] {-1, 100, LOWEST, HIGHEST}) {
-            bad(x, "mark 0 " + wrong, () -> x.mark(0, wrong, 0, 0));
-            bad(x, "mark 0 0 " + wrong, () -> x.mark(0, 0, wrong, 0));
+            c.bad(x, "mark 0 " + wrong, () -> x.mark(0, wrong, 0, 0));
+            c.bad(x, "mark 0 0 " + wrong, () -> x.mark(0, 0, wrong, 0));
         }
         for (int wrong : new int[] {-1, 2, LOWEST, HIGHEST}) {
-            bad(x, "mark 0 0 0 " + wrong, () -> x.mark(0, 0, 0, wrong));
+            c.bad(x, "mark 0 0 0 " + wrong, () -> x.mark(0, 0, 0, wrong));
         }
         for (int many = 3; many <= 6; many++) {
             c.due("mark " + many, x.mark(1, 2, 3, 1), many);
         }
-        refused(x, "a seventh", FULL, () -> x.mark(1, 2, 3, 1));
-        bad(x, "a bad seventh", () -> x.mark(1, 2, 3, 2));
+        c.refused(x, "a seventh", FULL, () -> x.mark(1, 2, 3, 1));
+        c.bad(x, "a bad seventh", () -> x.mark(1, 2, 3, 2));
         c.due("six", x.count(7), 6);
     }
 
@@ -975,9 +898,9 @@ public final class PromiseTest {
         for (int i = 0; i < 3; i++) {
             x.mark(0, 0, 0, 0);
         }
-        bad(x, "forget -1", () -> x.forget(-1));
-        bad(x, "forget 3", () -> x.forget(3));
-        bad(x, "forget the highest", () -> x.forget(HIGHEST));
+        c.bad(x, "forget -1", () -> x.forget(-1));
+        c.bad(x, "forget 3", () -> x.forget(3));
+        c.bad(x, "forget the highest", () -> x.forget(HIGHEST));
         c.due("no set", x.who(0), 0);
         c.due("forget heard", x.forget(0), 1);
         c.due("then", x.count(5), 0);
@@ -1016,7 +939,7 @@ public final class PromiseTest {
         c.due("against itself", kindsBy(1, 2, 1, 3), 0);
         HandedSlips x = new HandedSlips();
         for (int wrong : new int[] {-1, 5, LOWEST, HIGHEST}) {
-            bad(x, "is " + wrong, () -> x.is(wrong));
+            c.bad(x, "is " + wrong, () -> x.is(wrong));
         }
         x.tower(4);
         x.note(3, 4, 5);
@@ -1045,7 +968,7 @@ public final class PromiseTest {
         c.due("by none", x.look(0), 1);
         c.due("by a wrong one", x.look(1), NONE);
         for (int wrong : new int[] {-1, 5, LOWEST, HIGHEST}) {
-            bad(x, "look " + wrong, () -> x.look(wrong));
+            c.bad(x, "look " + wrong, () -> x.look(wrong));
         }
     }
 
@@ -1075,7 +998,7 @@ public final class PromiseTest {
         x.hands(0, STRANGER);
         c.due("by marks, not by who is there", x.kinds(0), 63);
         for (int wrong : new int[] {-1, 5, LOWEST, HIGHEST}) {
-            bad(x, "kinds " + wrong, () -> x.kinds(wrong));
+            c.bad(x, "kinds " + wrong, () -> x.kinds(wrong));
         }
     }
 
@@ -1090,7 +1013,7 @@ public final class PromiseTest {
         x.mark(0, 0, 0, 1);
         c.due("by his own marks", x.ask(0), 1);
         for (int wrong : new int[] {-1, 5, LOWEST, HIGHEST}) {
-            bad(x, "ask " + wrong, () -> x.ask(wrong));
+            c.bad(x, "ask " + wrong, () -> x.ask(wrong));
         }
     }
 
@@ -1115,7 +1038,7 @@ public final class PromiseTest {
         }
         c.due("whatever their ringers", y.lends(4, 3), 1 + 2);
         c.due("whatever their ringers", y.lends(3, 4), 1 + 4);
-        HandedSlips v = bells(6, 121212);
+        HandedSlips v = Towers.bells(6, 121212);
         v.slips(5, LATE, 11);
         v.slips(4, PLAIN, 1);
         // in row 11 bell 6 is the last, in row 1 bell 5: the own slip moves none, the other bell's moves them
@@ -1127,14 +1050,14 @@ public final class PromiseTest {
         // 1: bell 4 to 5 and stays: both are elsewhere. 2: bell 5 stays, twice: none. 3: bell 5 stays, bell 4 to 5.
         c.due("in one row", z.lends(4, 3), 1 + 2);
         y.slips(2, LATE, 3);
-        refused(y, "one has none", NO, () -> y.lends(3, 1));
-        refused(y, "the first has none", NO, () -> y.lends(1, 3));
-        bad(y, "alike", () -> y.lends(3, 3));
-        bad(y, "alike without one", () -> y.lends(1, 1));
+        c.refused(y, "one has none", NO, () -> y.lends(3, 1));
+        c.refused(y, "the first has none", NO, () -> y.lends(1, 3));
+        c.bad(y, "alike", () -> y.lends(3, 3));
+        c.bad(y, "alike without one", () -> y.lends(1, 1));
         for (int wrong : new int[] {-1, 5, LOWEST, HIGHEST}) {
-            bad(y, "lends " + wrong + " 3", () -> y.lends(wrong, 3));
-            bad(y, "lends 3 " + wrong, () -> y.lends(3, wrong));
-            bad(y, "a wrong rope, and one without a slip", () -> y.lends(1, wrong));
+            c.bad(y, "lends " + wrong + " 3", () -> y.lends(wrong, 3));
+            c.bad(y, "lends 3 " + wrong, () -> y.lends(3, wrong));
+            c.bad(y, "a wrong rope, and one without a slip", () -> y.lends(1, wrong));
         }
     }
 
@@ -1146,7 +1069,7 @@ public final class PromiseTest {
     private static void odds() {
         HandedSlips x = new HandedSlips();
         oddsDue("rounds", x, 5, 0, 1);
-        compose(x, 323232);
+        Towers.compose(x, 323232);
         oddsDue("true, no slips", x, 5, 1, 1);
         x.slips(1, PLAIN, 1);
         oddsDue("one, 3 of 10", x, 3, 3, 10);
@@ -1160,17 +1083,17 @@ public final class PromiseTest {
         oddsDue("a third that harms none", x, 4, 4, 25);
         x.hands(1, LEARNER);
         oddsDue("of those made now", x, 3, 3, 10);
-        HandedSlips y = bells(5, 323232);
+        HandedSlips y = Towers.bells(5, 323232);
         y.slips(1, PLAIN, 11);
         y.slips(4, EARLY, 5);
         oddsDue("unless both are made", y, 3, 51, 100);
         oddsDue("unless both are made", y, 5, 3, 4);
         oddsDue("both are made", y, 0, 0, 1);
         for (int wrong : new int[] {-1, 11, LOWEST, HIGHEST}) {
-            bad(y, "odds " + wrong, () -> y.odds(wrong));
+            c.bad(y, "odds " + wrong, () -> y.odds(wrong));
         }
         fractionDue("behind bad ones", y, 0, 1);
-        HandedSlips z = bells(6, 121212);
+        HandedSlips z = Towers.bells(6, 121212);
         for (int r = 0; r < 6; r++) {
             z.slips(r, LEFT, 1);
         }
@@ -1210,35 +1133,35 @@ public final class PromiseTest {
         c.due("the highest seed", y.weddings(999999, 1), 1);
         c.due("the highest seed, the second year", y.weddings(999999, 2), 1);
         for (int wrong : new int[] {-1, 1000000, LOWEST, HIGHEST}) {
-            bad(x, "weddings " + wrong + " 1", () -> x.weddings(wrong, 1));
+            c.bad(x, "weddings " + wrong + " 1", () -> x.weddings(wrong, 1));
         }
         for (int wrong : new int[] {-1, 61, LOWEST, HIGHEST}) {
-            bad(x, "weddings 0 " + wrong, () -> x.weddings(0, wrong));
+            c.bad(x, "weddings 0 " + wrong, () -> x.weddings(0, wrong));
         }
         weddingsFarOff();
     }
 
     private static void weddingsFarOff() {
         HandedSlips x = new HandedSlips();
-        Checks.readText(x, "tower 4;slip 3 3 3;slip 1 0 1;" + "years 99;".repeat(10) + "years 9;");
+        Towers.readText(x, "tower 4;slip 3 3 3;slip 1 0 1;" + "years 99;".repeat(10) + "years 9;");
         x.hands(1, PROUD);
         // seed 7, first rope 4, 2, 2, 0: rope 1 keeps its proud one, who makes it in 999, 1001, 1002, not in 1000
         c.due("years beyond 999", x.weddings(7, 4), 3);
     }
 
     private static void part() {
-        HandedSlips x = filled();
+        HandedSlips x = Towers.filled();
         fractionDue("filled", x, 3, 10);
         for (int wrong : new int[] {-1, 2, LOWEST, HIGHEST}) {
-            bad(x, "part " + wrong, () -> x.part(wrong));
+            c.bad(x, "part " + wrong, () -> x.part(wrong));
         }
     }
 
     // ---- 34 to 38
 
     private static void images() {
-        HandedSlips x = filled();
-        refused(x, "from 0, never kept", NO, () -> x.from(0));
+        HandedSlips x = Towers.filled();
+        c.refused(x, "from 0, never kept", NO, () -> x.from(0));
         long first = x.digest();
         c.due("image 0", x.image(0), 1);
         x.tower(4);
@@ -1266,13 +1189,13 @@ public final class PromiseTest {
         c.due("nor status", x.status(0), badOnes + 1);
         imageOfTheMost();
         for (int wrong : new int[] {-1, 2, LOWEST, HIGHEST}) {
-            bad(x, "image " + wrong, () -> x.image(wrong));
-            bad(x, "from " + wrong, () -> x.from(wrong));
+            c.bad(x, "image " + wrong, () -> x.image(wrong));
+            c.bad(x, "from " + wrong, () -> x.from(wrong));
         }
     }
 
     private static void imageOfTheMost() {
-        HandedSlips x = bells(4, 123123);
+        HandedSlips x = Towers.bells(4, 123123);
         for (int i = 0; i < 9; i++) {
             x.slips(i % 4, i % 6, 1 + i);
         }
@@ -1294,7 +1217,7 @@ public final class PromiseTest {
             c.due("row " + i, x.of(i % 4, 1), 1 + i);
         }
         c.due("the first slip alone is left", x.count(1), 1);
-        refused(x, "undo a ninth", NO, x::undo);
+        c.refused(x, "undo a ninth", NO, x::undo);
     }
 
     private static void status() {
@@ -1322,14 +1245,14 @@ public final class PromiseTest {
     }
 
     private static void count() {
-        HandedSlips x = filled();
+        HandedSlips x = Towers.filled();
         // made now, at three years: rope 2's alone (a left hand's three years are odd); one row is rung otherwise
         int[] told = {6, 2, 1, 3, 1, 1, 1, 1, 4, 2};
         for (int what = 0; what <= 9; what++) {
             c.due("count " + what, x.count(what), told[what]);
         }
         for (int wrong : new int[] {-1, 10, LOWEST, HIGHEST}) {
-            bad(x, "count " + wrong, () -> x.count(wrong));
+            c.bad(x, "count " + wrong, () -> x.count(wrong));
         }
         HandedSlips y = new HandedSlips();
         y.slips(0, DROPPED, 4);
@@ -1343,16 +1266,8 @@ public final class PromiseTest {
         c.due("two rows", y.count(4), 2);
     }
 
-    private static long mixed(long... values) {
-        long h = 1549;
-        for (long v : values) {
-            h = 31 * h + v;
-        }
-        return h;
-    }
-
     private static void digest() {
-        HandedSlips x = filled();
+        HandedSlips x = Towers.filled();
         x.heard(7, 654321);
         x.note(5, 6, 4);
         x.mark(0, 99, 98, 0);
@@ -1364,8 +1279,8 @@ public final class PromiseTest {
             1, 1, 3, 5, 6, 4,
             2, 7, 8, 1, 0, 99, 98, 0,
             3, 10};
-        c.due("digest", x.digest(), mixed(told));
-        c.due("digest again", x.digest(), mixed(told));
+        c.due("digest", x.digest(), Towers.mixed(told));
+        c.due("digest again", x.digest(), Towers.mixed(told));
         HandedSlips y = new HandedSlips();
         y.tower(4);
         long[] least = new long[10 + 6 + 16 + 2];
@@ -1376,6 +1291,6 @@ public final class PromiseTest {
             least[17 + 4 * r] = -1;
         }
         least[33] = 1;
-        c.due("digest of four", y.digest(), mixed(least));
+        c.due("digest of four", y.digest(), Towers.mixed(least));
     }
 }
