@@ -259,9 +259,9 @@ public final class EdgeKeptTest {
     private static void digestMost() {
         c.sentence(38, "of HEARD r, bells; of NOTES r, p, q; of MARKS r, y, t, made; THE FRACTION.");
         HandedSlips x = most();
-        x.odds(0);
+        x.odds(3);
         Towers.typeAll(x, "x".repeat(150));
-        // all six are made; those of bells 2 and 6 move none; row 3 comes to 213546, as row 7 is, so the chance is 0
+        // all six are made; those of bells 2 and 6 move none; bell 1's brings row 1 to row 8, bell 3's row 3 to row 7
         c.due("the most of all", x.digest(), Towers.mixed(
             6, 6, 6, 998, 4, 4, 6, 6, 8, 150,
             3, 2, 3, 2, 3, 2,
@@ -269,6 +269,6 @@ public final class EdgeKeptTest {
             1, 123456, 3, 654321, 5, 123456, 7, 654321,
             0, 1, 6, 1, 2, 5, 2, 3, 4, 3, 4, 3, 4, 5, 2, 5, 6, 1,
             0, 16, 84, 1, 1, 32, 68, 0, 2, 48, 52, 1, 3, 64, 36, 0, 4, 80, 20, 1, 5, 96, 4, 0,
-            0, 1));
+            9, 100));
     }
 }

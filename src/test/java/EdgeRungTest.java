@@ -306,7 +306,8 @@ public final class EdgeRungTest {
         c.sentence(17, "(6 CHANGES 1 .. 3, as a number, the first the highest figure)");
         HandedSlips y = Towers.bells(6, 0);
         c.answers(y, "six figures of six bells", 121212, y::compose);
-        c.answers(notByOne(), "the first figure", 2, () -> notByOne().compose() / 100000);
+        HandedSlips two = notByOne();
+        c.answers(two, "the first figure", 2, () -> two.compose() / 100000);
         // 0 0 0 0 0 0 is not TRUE, 0 1 2 1 2 3 would be, and less, but for the 0
         HandedSlips z = Towers.bells(5, 0);
         z.slips(0, LATE, 1);
@@ -316,6 +317,12 @@ public final class EdgeRungTest {
         Towers.compose(z, 12123);
         c.due("it is true with a change 0", z.repeats(0), NONE);
         c.due("a 0 is not told", z.compose(), 121213);
+        // 24153 comes to 24531 in row 3: 1 2 0 1 3 2 would be true, and less
+        HandedSlips v = Towers.bells(5, 120132);
+        v.slips(0, LATE, 3);
+        v.slips(1, LATE, 8);
+        c.due("it is true with a change 0 behind others", v.repeats(0), NONE);
+        c.due("a 0 behind others is not told", v.compose(), 121213);
     }
 
     private static HandedSlips slipsOfComposed(int which) {
@@ -371,7 +378,8 @@ public final class EdgeRungTest {
 
     private static void whenYearsEnd() {
         c.sentence(18, "(Nothing is changed by these; YEARS go beyond 999 in them.)");
-        HandedSlips x = Towers.told("tower 5;method 1 2 1 2 1 2;slip 4 1 10;slip 0 0 11;" + "years 99;".repeat(10) + "years 9;");
+        String until999 = "years 99;".repeat(10) + "years 9;";
+        HandedSlips x = Towers.told("tower 5;method 1 2 1 2 1 2;slip 4 1 10;slip 0 0 11;" + until999);
         x.hands(4, Towers.LENT);
         // 999 is odd, 1000 is divided by 5, 1001 is odd
         c.answers(x, "made in 1002", 3, x::when);

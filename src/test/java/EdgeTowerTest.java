@@ -1,7 +1,8 @@
 /** Promises 1 to 12: each sentence that names a boundary case, with a check of its own. */
 public final class EdgeTowerTest {
     private static final int NONE = Towers.NONE, BAD = Towers.BAD, NO = Towers.NO, FULL = Towers.FULL;
-    private static final int PLAIN = Towers.PLAIN, EARLY = Towers.EARLY, LATE = Towers.LATE, LEFT = Towers.LEFT, ECHO = Towers.ECHO;
+    private static final int PLAIN = Towers.PLAIN, EARLY = Towers.EARLY, LATE = Towers.LATE;
+    private static final int LEFT = Towers.LEFT, ECHO = Towers.ECHO;
     private static final int OLD = Towers.OLD, LEARNER = Towers.LEARNER, PROUD = Towers.PROUD, LENT = Towers.LENT;
     private static final int LOWEST = Towers.LOWEST, HIGHEST = Towers.HIGHEST;
 
@@ -78,7 +79,7 @@ public final class EdgeTowerTest {
         c.due("the most", x.tower(6), 4);
         c.due("six", x.row(0, 0), 123456);
         c.due("five", x.tower(5), 6);
-        c.sentence(2, "n BELLS, all else as at first (but for IMAGES, THE TEXT, THE FRACTION, STATUS): how many there were.");
+        c.sentence(2, "STATUS): how many there were.");
         c.due("the same again", x.tower(5), 5);
         c.due("how many there were, behind a refused one", x.tower(7) == BAD ? x.tower(4) : 0, 5);
     }
@@ -153,7 +154,7 @@ public final class EdgeTowerTest {
         }
         c.due("the 150th", x.type(';'), 150);
         c.refused(x, "the 151st", FULL, () -> x.type(';'));
-        c.sentence(4, "Refused, changing nothing but STATUS, the first of: BAD -2 a number is not as told; NO -3 as told; FULL -4");
+        c.sentence(4, "the first of: BAD -2 a number is not as told; NO -3 as told; FULL -4");
         c.bad(x, "a bad 151st", () -> x.type(128));
         c.due("a byte the less is none the less full", x.type(0), FULL);
         c.sentence(4, "BAD; FULL.");
@@ -240,7 +241,8 @@ public final class EdgeTowerTest {
         c.due("told behind them", x.of(1, 3), 4);
         c.due("not told", x.of(2, 3), 3);
         c.sentence(6, "at 999 none does)");
-        HandedSlips y = Towers.told("tower 5;" + "years 99;".repeat(10) + "years 8;ringer 2 0 1;years 99;ringer 3 0 1;years 9;");
+        String until998 = "tower 5;" + "years 99;".repeat(10) + "years 8;";
+        HandedSlips y = Towers.told(until998 + "ringer 2 0 1;years 99;ringer 3 0 1;years 9;");
         c.due("the town's year", y.count(3), 999);
         c.due("one went by from 998", y.of(2, 3), 2);
         c.due("none at 999", y.of(3, 3), 1);
@@ -288,6 +290,8 @@ public final class EdgeTowerTest {
         fault("  ; tower", 2);
         c.sentence(6, "a word that is none");
         fault("towe 5;", 0);
+        fault("xower 5;", 0);
+        fault("towex 5;", 0);
         fault("towers 5;", 0);
         fault("tower 5;metho 1 1 1 1 1 1;", 8);
         fault("tower 5;slips 0 0 1;", 8);
@@ -369,6 +373,8 @@ public final class EdgeTowerTest {
         Towers.asAtFirst(c, "read into a filled one", x, 6);
         c.due("image 1", x.from(1), 1);
         c.due("its slips", x.count(1), 2);
+        c.due("the same text read again", x.read(), 1);
+        c.due("its slips are gone again", x.count(1), 0);
         c.sentence(6, "(HEARD ones, NOTES, MARKS none; nothing to undo)");
         HandedSlips y = Towers.filled();
         Towers.readText(y, "tower 6;slip 0 0 1;years 3;");

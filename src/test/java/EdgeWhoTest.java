@@ -106,6 +106,11 @@ public final class EdgeWhoTest {
         whoDue("three heard", x, 2, 7, 15);
         x.heard(4, 12354);
         whoDue("four heard", x, 1, 15, 15);
+        HandedSlips ends = slipsInRows(5, 1, 11);
+        ends.heard(11, 13245);
+        whoDue("heard in the last row", ends, 2, 2, 3);
+        ends.heard(1, 21345);
+        whoDue("heard in the first row, too", ends, 1, 3, 3);
         HandedSlips y = slipsInRows(5, 1, 2, 3, 4);
         for (int r = 1; r <= 4; r++) {
             y.heard(r, 12345);
@@ -137,6 +142,8 @@ public final class EdgeWhoTest {
         c.due("one set: all rows are like", y.tell(), 1);
         y.heard(5, 21345);
         c.answers(y, "no set", NONE, y::tell);
+        HandedSlips most = slipsInRows(6, 1, 2, 3, 4, 5, 6);
+        c.answers(most, "64 sets, by each of six rows 32", 1, most::tell);
         c.sentence(22, "TELL: the ROW (1 .. 11) by which most of these sets would be RUNG alike are fewest");
         HandedSlips z = slipsInRows(5, 11);
         c.answers(z, "the last row", 11, z::tell);
@@ -255,7 +262,8 @@ public final class EdgeWhoTest {
         HandedSlips x = noted();
         c.answers(x, "no notes: all kinds", 63, () -> x.is(2));
         c.due("one kind", noted(1, 2).is(2), 1);
-        c.answers(noted(2, 5), "no kind", 0, () -> noted(2, 5).is(2));
+        HandedSlips none = noted(2, 5);
+        c.answers(none, "no kind", 0, () -> none.is(2));
         HandedSlips six = noted(6, 6, 6, 6, 6, 6, 6, 6, 6, 6, 3, 3);
         c.due("the sixth counts", six.is(2), 1 << DROPPED);
         c.due("another rope's do not", six.is(1), 63);
@@ -270,7 +278,8 @@ public final class EdgeWhoTest {
 
     private static void look() {
         c.sentence(27, "of like ones the least; none: no KIND.");
-        c.answers(noted(2, 5), "no kind", NONE, () -> noted(2, 5).look(2));
+        HandedSlips none = noted(2, 5);
+        c.answers(none, "no kind", NONE, () -> none.look(2));
         c.due("one kind: all places are like", noted(1, 2).look(2), 1);
         c.due("two kinds that are never apart", noted(1, 3).look(2), 1);
         c.due("all kinds: 1 and 2 are like", noted().look(2), 1);
@@ -318,6 +327,8 @@ public final class EdgeWhoTest {
         c.due("the last of the years", marked(0, 0, 0).ask(2), 9);
         c.due("learner or stranger", marked(9, 0, 1, 0, 0, 0).ask(2), 3);
         c.due("proud or lent: year 1", marked(1, 2, 1, 0, 5, 0).ask(2), 100);
+        // proud, stranger, left hand, lent: in year 0 ten years would part them two and two, nine do not
+        c.due("ten years are none to ask", marked(3, 0, 0).ask(2), 100);
         c.sentence(29, "ASK. NONE. BAD.");
         badRopes(4, HandedSlips::ask);
     }
@@ -370,6 +381,7 @@ public final class EdgeWhoTest {
         first.hands(0, LEARNER);
         first.hands(1, LEARNER);
         c.answers(first, "made by neither now", 1 + 2, () -> first.lends(0, 1));
+        c.answers(first, "made by neither now, told the other way round", 1 + 4, () -> first.lends(1, 0));
         c.sentence(30, "all others as they are made now");
         // bell 4 stays by LEFT; lent, bell 1 goes to the last place and bell 4 to the third
         HandedSlips x = twoSlips(6, 3, LEFT, 0, PLAIN);
@@ -509,6 +521,10 @@ public final class EdgeWhoTest {
         // seed 0: 12345 is rope 0, to an OLD one; seed 5: 1222621274 is rope 18655, so 1, to 1165, so a LEARNER
         c.due("the first kind", firstYear(0, LEARNER, 0), 1);
         c.due("the second kind", firstYear(1, OLD, 5), 0);
+        // seed 959: 1709177484 is rope 3, to 1629, so a STRANGER; 1396 more would make it 1630, so a LEFT HAND
+        c.due("cut, near the next", firstYear(3, OLD, 959), 0);
+        // seed 241: 1806697686 is rope 4, to 1723, so a LEARNER; 1239 less would make it 1722, so an OLD one
+        c.due("cut, just above", firstYear(4, OLD, 241), 0);
     }
 
     private static void weddingsYears() {
