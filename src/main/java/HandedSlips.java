@@ -514,9 +514,8 @@ public final class HandedSlips {
         }
 
         void untell() {
-            Arrays.fill(cells, 0);
-            for (int r = 0; r < MOST_BELLS; r++) {
-                takeSlip(r);
+            for (int i = 0; i < CELLS; i++) {
+                cells[i] = i < RINGER ? NONE : 0;
             }
         }
 
@@ -555,7 +554,7 @@ public final class HandedSlips {
         }
 
         boolean hasSlip(int r) {
-            return slipKind(r) != NONE;
+            return cell(SLIP_KIND, r) != NONE;
         }
 
         void putSlip(int r, int kind, int row) {
@@ -575,8 +574,8 @@ public final class HandedSlips {
         /** A year goes by without the town's bound, as it does where nothing is changed by it. */
         void passYear() {
             cells[TOWN]++;
-            for (int r = 0; r < MOST_BELLS; r++) {
-                setCell(YEARS, r, Math.min(yearsOf(r) + 1, MOST_YEARS));
+            for (int i = YEARS; i < TOWN; i++) {
+                cells[i] = Math.min(cells[i] + 1, MOST_YEARS);
             }
         }
 
