@@ -39,6 +39,9 @@ public final class LanguageTest {
     private static final int MOST_CLASSES = 12;
     private static final int MOST_PARAMETERS = 7;
 
+    private static final Set<String> OWN_LIBRARY = Set.of("Math.min", "Math.max", "Integer.bitCount", "Arrays.fill",
+        "System.arraycopy", "String.length", "String.charAt");
+
     private static final Checks c = new Checks();
 
     public static void main(String[] args) throws IOException {
@@ -60,6 +63,7 @@ public final class LanguageTest {
             c.holds("rule 11: " + DEEPEST_CALLS + " deep at most: " + String.join(" > ", chain), chain.size() <= DEEPEST_CALLS);
         }
         making(walk);
+        library(walk);
         c.end();
     }
 
@@ -77,6 +81,21 @@ public final class LanguageTest {
         for (String maker : walk.makers) {
             c.holds("rule 12: " + maker + " makes objects as they are made alone", maker.endsWith(".<init>"));
         }
+    }
+
+    /** What is called stands in the file or is one of the few that it needs; so are the types. */
+    private static void library(Walk walk) {
+        for (Set<String> called : walk.calls.values()) {
+            for (String method : called) {
+                c.holds("rule 4: " + method, walk.calls.containsKey(method) || OWN_LIBRARY.contains(method));
+            }
+        }
+        for (String type : walk.types) {
+            String part = type.replaceFirst("^HandedSlips\\.", "");
+            boolean numbers = type.matches("(int|long|byte|boolean)(\\[\\]){0,2}");
+            c.holds("rule 3: " + type, numbers || type.equals("java.lang.String") || walk.fields.containsKey(part));
+        }
+        c.holds("rule 3: there are types to look at", walk.types.contains("int[][]") && walk.types.contains("HandedSlips.Tower"));
     }
 
     /** The longest chain of calls from a method on, the library's own at its end too; a call of one that is open is recursion. */
@@ -103,6 +122,7 @@ public final class LanguageTest {
         private final Map<String, Integer> lines = new TreeMap<>();
         private final Map<String, Integer> parameters = new TreeMap<>();
         private final Set<String> makers = new TreeSet<>();
+        private final Set<String> types = new TreeSet<>();
         private Trees trees;
         private CompilationUnitTree unit;
 
@@ -130,6 +150,12 @@ public final class LanguageTest {
             parameters.put(around(), tree.getParameters().size());
             calls.computeIfAbsent(around(), name -> new TreeSet<>());
             return super.visitMethod(tree, none);
+        }
+
+        @Override
+        public Void visitVariable(VariableTree tree, Void none) {
+            types.add(trees.getTypeMirror(new TreePath(getCurrentPath(), tree.getType())).toString());
+            return super.visitVariable(tree, none);
         }
 
         @Override
